@@ -172,7 +172,7 @@ public final class ParkDesk {
             return NUMBER;
         }
         laying.lay(night, hour, least);
-        return laying.tell(what, hour);
+        return laying.tell(what);
     }
 
     public int keep(int night, int hour) {
@@ -180,7 +180,7 @@ public final class ParkDesk {
             return NUMBER;
         }
         laying.lay(night, hour, false);
-        return laying.useCards(hour);
+        return laying.useCards();
     }
 
     public int moved(int night, int hour, int street, int zone, int what) {
@@ -191,7 +191,7 @@ public final class ParkDesk {
         int was = streets.zone[street];
         streets.zone[street] = zone;
         laying.lay(night, hour, true);
-        int answer = laying.tell(what, hour);
+        int answer = laying.tell(what);
         streets.zone[street] = was;
         return answer;
     }
@@ -453,6 +453,8 @@ public final class ParkDesk {
         final Streets streets;
         final Cars cars;
         final int[] place = new int[CARS];
+        /** Both stay 0 for streets that haven't come: nobody may stand there, and no bay is left. */
+        final int[][] right = new int[CARS][STREETS];
         final int[] left = new int[PLACES];
         final Cheapest cheapest = new Cheapest();
 
@@ -463,10 +465,11 @@ public final class ParkDesk {
 
         void lay(int night, int hour, boolean least) {
             openBays(night);
+            readRights(hour);
             if (least) {
-                layLeast(hour);
+                layLeast();
             } else {
-                comeHome(hour);
+                comeHome();
             }
         }
 
@@ -474,56 +477,54 @@ public final class ParkDesk {
             for (int street = 0; street < streets.count; street++) {
                 left[street] = streets.bays[street] - streets.closed[street][night];
             }
-            for (int street = streets.count; street < STREETS; street++) {
-                left[street] = 0;
-            }
             left[OUT] = CARS;
         }
 
-        private void comeHome(int hour) {
+        private void readRights(int hour) {
+            for (int car = 0; car < cars.count; car++) {
+                for (int street = 0; street < streets.count; street++) {
+                    right[car][street] = cars.right(car, streets.zone[street], hour);
+                }
+            }
+        }
+
+        private void comeHome() {
             for (int i = 0; i < cars.count; i++) {
                 int car = cars.order[i];
-                place[car] = choose(car, hour);
+                place[car] = choose(car);
                 left[place[car]]--;
             }
         }
 
-        private int choose(int car, int hour) {
+        private int choose(int car) {
             int best = OUT;
-            for (int street = 0; street < streets.count; street++) {
-                if (left[street] > 0 && isWithin(car, street, hour)
-                        && (best == OUT || isBetter(car, street, best, hour))) {
+            for (int street = 0; street < STREETS; street++) {
+                if (left[street] > 0 && isWithin(car, street)
+                        && (best == OUT || isBetter(car, street, best))) {
                     best = street;
                 }
             }
             return best;
         }
 
-        private boolean isBetter(int car, int street, int than, int hour) {
-            int walk = walkTo(car, street);
-            int other = walkTo(car, than);
-            if (walk != other) {
-                return walk < other;
-            }
-            return rightAt(car, street, hour) > rightAt(car, than, hour);
+        private boolean isBetter(int car, int street, int than) {
+            int toIt = walkTo(car, street);
+            int toOther = walkTo(car, than);
+            return toIt < toOther || toIt == toOther && right[car][street] > right[car][than];
         }
 
-        private boolean isWithin(int car, int street, int hour) {
-            return rightAt(car, street, hour) != MAY_NOT && walkTo(car, street) <= cars.limit[car];
+        private boolean isWithin(int car, int street) {
+            return right[car][street] != MAY_NOT && walkTo(car, street) <= cars.limit[car];
         }
 
         private int walkTo(int car, int street) {
             return streets.walk[cars.home[car]][street];
         }
 
-        private int rightAt(int car, int street, int hour) {
-            return cars.right(car, streets.zone[street], hour);
-        }
-
-        private void layLeast(int hour) {
+        private void layLeast() {
             for (int car = 0; car < cars.count; car++) {
                 for (int street = 0; street < STREETS; street++) {
-                    if (street < streets.count && isWithin(car, street, hour)) {
+                    if (isWithin(car, street)) {
                         cheapest.setPrice(car, street, walkTo(car, street));
                     } else {
                         cheapest.forbid(car, street);
@@ -534,32 +535,32 @@ public final class ParkDesk {
             }
         }
 
-        int tell(int what, int hour) {
+        int tell(int what) {
             int sum = 0;
             for (int car = 0; car < cars.count; car++) {
-                sum += tellOne(what, car, hour);
+                sum += tellOne(what, car);
             }
             return sum;
         }
 
-        private int tellOne(int what, int car, int hour) {
+        private int tellOne(int what, int car) {
             if (place[car] == OUT) {
                 return what == TELL_OUT ? 1 : 0;
             }
             if (what == TELL_WALKS) {
                 return walkTo(car, place[car]);
             }
-            return what == TELL_BY_CARD && standsByCard(car, hour) ? 1 : 0;
+            return what == TELL_BY_CARD && standsByCard(car) ? 1 : 0;
         }
 
-        private boolean standsByCard(int car, int hour) {
-            return place[car] != OUT && rightAt(car, place[car], hour) == MAY_BY_CARD;
+        private boolean standsByCard(int car) {
+            return place[car] != OUT && right[car][place[car]] == MAY_BY_CARD;
         }
 
-        int useCards(int hour) {
+        int useCards() {
             int used = 0;
             for (int car = 0; car < cars.count; car++) {
-                if (standsByCard(car, hour)) {
+                if (standsByCard(car)) {
                     cars.cards[car][streets.zone[place[car]]]--;
                     used++;
                 }
@@ -600,9 +601,13 @@ public final class ParkDesk {
 
         void add(int car, int[] place, int[] left) {
             startAt(car);
-            for (int round = 0; round < PLACES; round++) {
+            boolean changed = true;
+            for (int round = 0; changed && round < PLACES; round++) {
+                changed = false;
                 for (int other = 0; other < car; other++) {
-                    passOn(other, place[other]);
+                    if (passOn(other, place[other])) {
+                        changed = true;
+                    }
                 }
             }
             int end = cheapestEnd(left);
@@ -617,20 +622,21 @@ public final class ParkDesk {
             }
         }
 
-        private void passOn(int car, int from) {
+        /** Whether a place is reached for less if this car leaves its own to go there. */
+        private boolean passOn(int car, int from) {
             if (reach[from] == FAR) {
-                return;
+                return false;
             }
+            boolean changed = false;
             for (int to = 0; to < PLACES; to++) {
-                if (price[car][to] == FORBIDDEN) {
-                    continue;
-                }
                 long sum = reach[from] - price[car][from] + price[car][to];
-                if (sum < reach[to]) {
+                if (price[car][to] != FORBIDDEN && sum < reach[to]) {
                     reach[to] = sum;
                     comer[to] = car;
+                    changed = true;
                 }
             }
+            return changed;
         }
 
         private int cheapestEnd(int[] left) {

@@ -130,6 +130,7 @@ public final class NightsTest {
         D.due("least 0", x.stands(0, 0, 0, true), 0);
         D.due("least 1", x.stands(0, 0, 1, true), 2);
         D.due("least 2", x.stands(0, 0, 2, true), 1);
+        D.due("moved is of the least", x.moved(0, 0, 2, 3, 0), 5);
         x.close(2, 3, 1);
         D.due("closed: least out", x.told(3, 0, 1, true), 1);
         D.due("closed: least walks", x.told(3, 0, 0, true), 0);
@@ -182,6 +183,7 @@ public final class NightsTest {
         D.due("least goes by the street alone", x.stands(0, 0, 0, true), 0);
         D.due("by a card, night", x.told(0, 0, 2, false), 0);
         D.due("by a card, least", x.told(0, 0, 2, true), 1);
+        D.due("the night is kept, not the least", x.keep(0, 0), 0);
     }
 
     private static void keepUsesCards() {
