@@ -499,6 +499,14 @@ public final class PromisesEdgesTest {
             keep 0 8 = 5                # two OUT
             cards 0..6 1 0 = 8 0 0 0 0 1 1
             keep 0 8 = 0
+            new                         # THE LEAST would have it by a CARD
+            street 1 1 = 0
+            street 0 1,0 = 1 2
+            rule 1 0 23 = 1
+            car 2 = 0
+            cards 0 1 1 = 0
+            keep 0 0 = 0
+            cards 0 1 0 = 1
             """);
         edge("16: keep", "NUMBER: there is no such NIGHT, hour.", """
             keep 0,6 0,23 = 0
@@ -530,6 +538,12 @@ public final class PromisesEdgesTest {
             told 0 5 0,1 true = 10 0
             moved 0 5 1 0 0,1 = 10 0
             move 0,1 0 = 0 3
+            new                         # told(.., false) would have one OUT
+            street 0 1,1 = 0 1
+            car 0,0 = 0 1
+            limit 1 9 = 99
+            told 0 0 0,1 false = 0 1
+            moved 0 0 0 1 0,1 = 10 0
             """);
         edge("17: moved", "NUMBER: there is no such NIGHT, hour, STREET, ZONE, another what.", """
             moved 0 0 0 0 0 = -1

@@ -235,7 +235,8 @@ public final class TermsEdgesTest {
             hours 1 2 6 9 = 1
             may 0 0 3..9 = 2 0 0 0 0 0 2
             permit 0 0,1 1 true = 1     # other SORTS
-            permit 0 2 0,2,3 true = 1   # other ZONES
+            permit 0 0..2 0,2,3 true = 1
+            hours 0,2,3 0..2 0 23 = 1   # other ZONES
             may 0 0 3..9 = 2 0 0 0 0 0 2
             permit 0 2 1 true = 1
             may 0 0 3..9 = 2 0 0 2 2 2 2
@@ -371,6 +372,15 @@ public final class TermsEdgesTest {
             close 2 6 5 = 1
             keep 6 4 = 0
             many 7 = 60
+            new                         # it is THE NIGHT that is kept, not THE LEAST
+            street 1 1 = 0
+            street 0 1,0 = 1 2
+            rule 1 0 23 = 1
+            car 2 = 0
+            cards 0 1 9 = 0
+            told 0 0 2 false,true = 0 1
+            keep 0 0 = 0
+            many 7 = 9
             """);
     }
 
@@ -405,6 +415,21 @@ public final class TermsEdgesTest {
             told 0 0 0 false,true = 0 50
             limit 0 49 = 99             # now one must be OUT: the first stands
             stands 0 0 0,1 true = 0 -3
+            new                         # each must make room for the next
+            street 0 1,1,1,1,1 = 0 1 2 3 4
+            walk 0 2,3,4 50 = 10
+            walk 1 3,4 50 = 10
+            walk 2 4 50 = 10
+            walk 0 1 1 = 10
+            walk 1 2 1 = 10
+            walk 2 3 1 = 10
+            walk 3 4 1 = 10
+            car 3,2,1,0,0 = 0 1 2 3 4
+            limit 0..3 1 = 99
+            limit 4 0 = 99
+            stands 0 0 0..4 true = 4 3 2 1 0
+            told 0 0 0..2 true = 4 0 0
+            stands 0 0 0..4 false = 3 2 1 0 -3
             """);
         edge("of these with the least sum of WALKS;", """
             street 0 1,1,1 = 0 1 2
@@ -476,6 +501,18 @@ public final class TermsEdgesTest {
             told 0 6 0,1 true = 10 0
             many 7 = 1
             move 0,1 0 = 0
+            new                         # in THE LEAST, not in THE NIGHT
+            street 0 1,1,1 = 0 1 2
+            walk 0 1 50 = 10
+            walk 0 2 0 = 10
+            walk 1 2 50 = 10
+            car 0,0 = 0 1
+            limit 1 49 = 99
+            rule 3 0 23 = 1
+            move 2 3 = 0
+            told 0 0 0,1 false = 0 1
+            moved 0 0 2 3 0,1 = 50 0
+            moved 0 0 2 0 0,1 = 0 0
             """);
     }
 
