@@ -13,6 +13,7 @@ public final class TermsEdgesTest {
         cards();
         least();
         leastTies();
+        leastTiesOfNeighbours();
         move();
         wardens();
         turns();
@@ -481,6 +482,24 @@ public final class TermsEdgesTest {
             stands 0 0 0..2 true = 0 1 2
             stands 0 0 0..2 false = 1 2 0
             """);
+    }
+
+    /** A CAR has its lesser STREET even where the next one goes from the last to the first for that. */
+    private static void leastTiesOfNeighbours() {
+        for (int car = 0; car < 6; car++) {
+            edge("has the lesser STREET", """
+                street 0 1 = 0
+                street 1 1 = 1
+                street 0 0,0,1 = 2 3 4
+                car 2,2,2,2,2,2,2 = 0 1 2 3 4 5 6
+                rule 1 0 23 = 1
+                limit 0..6 0 = 99
+                limit CAR,NEXT 10 = 0
+                cards CAR 1 1 = 0
+                stands 0 0 CAR,NEXT true = 0 4
+                told 0 0 0..2 true = 20 5 0
+                """.replace("CAR", "" + car).replace("NEXT", "" + (car + 1)));
+        }
     }
 
     private static void move() {
